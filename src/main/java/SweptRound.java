@@ -888,10 +888,10 @@ public final class SweptRound {
 
     // ---- laws
 
-    /** What a TEXT gives, worked out from steps in the order of a stack; without steps there is no TEXT. */
+    /** What a USE gives. Its TEXT is kept as steps for a stack, as it is asked far oftener than read. */
     private static final class Law {
         private final int use;
-        /** Numbers as they are, NAMES as -1, -2, -3, signs as what is below 0 by as much as they are above. */
+        /** Numbers stand as they are, NAMES as -1, -2, -3, signs as their byte below 0. */
         private final int[] steps;
         private final int[] stack;
 
@@ -903,7 +903,7 @@ public final class SweptRound {
 
         int give(int a, int b, int c) {
             if (steps.length == 0) {
-                return unwritten(a, b);
+                return withoutText(a, b);
             }
             int high = 0;
             for (int i = 0; i < steps.length; i++) {
@@ -921,7 +921,7 @@ public final class SweptRound {
             return Math.max(0, Math.min(use == LEAVES ? 99 : 1, stack[0]));
         }
 
-        private int unwritten(int a, int b) {
+        private int withoutText(int a, int b) {
             if (use == LEAVES) {
                 return 3;
             }

@@ -128,6 +128,10 @@ public final class DaysTest {
         due.is("BEYOND ahead of STATE", x.days(61), Due.BEYOND);
         due.is("BEYOND ahead of STATE", x.loose(41), Due.BEYOND);
         due.is("no draws for STATE", x.count(10), 1);
+        x.image();
+        due.is("just 9999 by draws", x.loose(39), 0);
+        due.is("DAY", x.count(1), 9999);
+        x.restore();
         due.is("just 9999", x.days(39), 0);
         due.is("DAY", x.count(1), 9999);
         due.is("none more", x.days(1), Due.STATE);

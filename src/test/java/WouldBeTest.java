@@ -179,6 +179,25 @@ public final class WouldBeTest {
         x.change(0, 2, 99);
         x.change(3, 2, 99);
         due.is("2 and 3", x.tow(2, 1, 3), 12);
+        towLeastNumber();
+    }
+
+    /**
+     * The same signs. YARD 5 is swept, if 5 is towed, or two places are on the LEFT, or one and 1 is towed; YARD 4,
+     * if 4 is towed, or two places are on the RIGHT, or one and 2 is towed. So 1 and 2 will do (6), 0 and 4 (17).
+     */
+    private static void towLeastNumber() {
+        SweptRound x = new SweptRound();
+        Due.read(x, 1, "(d=0&s=1)|(d=1&s=0)");
+        Due.read(x, 0, "0");
+        x.yard(0, 0, 50);
+        x.yard(0, 0, 0);
+        x.yard(0, 0, 0);
+        x.yard(0, 0, 50);
+        x.yard(0, 100, 0);
+        x.yard(0, 100, 0);
+        x.set(0, 1);
+        due.is("1 and 2 are the least set", x.tow(4, 1, 3), 6);
     }
 
     private static void broom() {
