@@ -1,3 +1,5 @@
+import java.util.List;
+
 /** Compares answers with those that are due, and ends a test. */
 final class Due {
     static final int BEYOND = -1000000001;
@@ -16,6 +18,10 @@ final class Due {
         }
         wrong++;
         System.out.println(call + " answered " + got + ", due is " + want);
+    }
+
+    void same(String what, List<Integer> got, List<Integer> want) {
+        is(what + ", " + got + " and not " + want, got.equals(want) ? 1 : 0, 1);
     }
 
     void end() {
