@@ -49,9 +49,10 @@ public final class RoomTest {
         atMost("a new object", taken() - before, 5_000);
     }
 
+    /** Each kind has a street of its own, so that no object has more than 512 calls. */
     private static void questions() {
-        SweptRound x = fullStreet();
         for (int kind = 0; kind < 16; kind++) {
+            SweptRound x = fullStreet();
             long before = taken();
             for (int i = 0; i < CALLS / 16; i++) {
                 ask(x, kind);

@@ -4,6 +4,7 @@ public final class ThoughtEdgesTest {
 
     public static void main(String[] args) {
         behind();
+        behindWithNoneOpposite();
         daysAnswerDirtOfAll();
         worstByV();
         worstByDays();
@@ -69,10 +70,25 @@ public final class ThoughtEdgesTest {
         x.set(0, 5);
         due.is("WIND, LEFT", x.then(1, 10), 110 + 11 + 123 / 4);
         due.is("WIND, RIGHT", x.then(1, 11), 123 - 123 / 4);
-        SweptRound eleven = street("0", "0");
-        yards(eleven, -1, 1, 2, 3, 4, 5, 6, 7, 8, 9, 10, 200);
-        eleven.set(0, 9);
-        due.is("none OPPOSITE", eleven.then(60, 10), 200);
+    }
+
+    /** OPPOSITE "if it is there": nothing comes to the last of an odd number, whatever FALLS, in thought, too. */
+    private static void behindWithNoneOpposite() {
+        for (int many = 1; many <= 11; many += 2) {
+            SweptRound x = street("5", "0");
+            for (int i = 0; i < many; i++) {
+                x.yard(0, 100, -1);
+            }
+            int last = many - 1;
+            x.set(0, 9);
+            due.is("then, YARD " + last, x.then(60, last), 400);
+            due.is("odds, YARD " + last, x.odds(last, 401, 60, 0) * 10 + x.odds(last, 401, 60, 1), 11);
+            due.is("odds of less, YARD " + last, x.odds(last, 400, 60, 0), 0);
+            due.is("tow, YARD " + last, x.tow(last, 201, 20), 0);
+            due.is("tow of less, YARD " + last, x.tow(last, 200, 20), Due.NONE);
+            x.days(60);
+            due.is("in DAYS, YARD " + last, x.ofYard(last, 2), 400);
+        }
     }
 
     /** "n (1 to 60) DAYS: DIRT of all YARDS." */
