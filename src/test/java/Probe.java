@@ -1,7 +1,10 @@
 import java.util.ArrayList;
 import java.util.List;
 
-/** All that can be seen of an object but what told() tells. Looking uses it up. */
+/**
+ * What can be seen of an object but for what told() tells: all but the width of SHEETS (only whether it is that of
+ * SHEET 3), their numbers outside of 0 to 999, and laws at other places. Looking uses the object up.
+ */
 final class Probe {
     private final SweptRound x;
     private final List<Integer> seen = new ArrayList<>();
